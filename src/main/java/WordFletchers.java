@@ -535,7 +535,8 @@ public final class WordFletchers {
 
     private boolean canBeAllSeen(int p) {
         for (int i = 0; i < sightings.size; i++) {
-            int places = told.landings(p, sightings.saying[i], sightings.wind[i], sightings.damp[i]);
+            int s = sightings.saying[i];
+            int places = told.landings(p, s, sightings.wind[i], sightings.damp[i]);
             if (!isIn(places, sightings.place[i])) {
                 return false;
             }
@@ -801,7 +802,7 @@ public final class WordFletchers {
             return true;
         }
 
-        /** The NUMBER at hand, which is passed; BAD, and it stays, if there is none from least to most. */
+        /** The NUMBER at hand, which is passed; BAD, and it stays, if it is none told so. */
         private int takeNumber(int least, int most) {
             if (sort != NUMBER || value < least || value > most) {
                 return BAD;
