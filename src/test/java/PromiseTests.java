@@ -126,6 +126,12 @@ public final class PromiseTests {
         reads("0;", -10);
         reads("pp0 0;", -10);
         reads("pf", -10);
+        reads("pz0 0;", -10);
+        reads("pa0 0;", -10);
+        reads("p{", -11);
+        reads("p`", -11);
+        reads("p:", -11);
+        reads("p/", -11);
         reads("x;", -10);
         reads("p0 0;q", -15);
         reads("P0 0;", -10);
@@ -173,7 +179,12 @@ public final class PromiseTests {
         due("4: back(0) read anew", x.back(0), STATE);
         due("4: undo() read anew", x.undo(), STATE);
         due("4: trace() read anew", x.trace(), 11);
+        write(x, "p0 0;s9 0 0;");
+        x.uplands();
+        x.lets(0, 0, 0, 0, 0);
+        due("4: one lies", x.now(6), 1);
         due("4: uplands() of nothing", x.uplands(), 0);
+        due("4: nothing lies", x.now(6), 0);
         due("4: nobody", x.count(0), 0);
         due("4: 9 GEESE", x.now(2), 9);
     }
@@ -304,6 +315,12 @@ public final class PromiseTests {
         due("11: hours(10) is BAD first", x.hours(10), BAD);
         due("11: ten are known", x.undo(), 9);
         due("11: the HOUR again", x.now(0), 990);
+        for (int i = 8; i >= 0; i--) {
+            due("11: undo()", x.undo(), i);
+            due("11: the HOUR of each", x.now(0), 909 + 9 * i);
+        }
+        due("11: ten were known", x.undo(), STATE);
+        for (int i = 1; i <= 9; i++) due("11: hours(9)", x.hours(9), 909 + 9 * i);
         due("11: hours(8)", x.hours(8), 998);
         due("11: hours(2)", x.hours(2), STATE);
         due("11: hours(1)", x.hours(1), 999);
@@ -559,6 +576,16 @@ public final class PromiseTests {
         due("20: PLAIN doesn't go up: GOOSE 2", up.allot(1, 0), 1);
         WordFletchers first = of("p10 0;p13 0;s3 0 1;");
         due("20: by its FIRST alone, up", first.allot(1, 0), NONE);
+        // each by two GEESE, a SWAN or three HAIRS
+        WordFletchers six = of("p10 0;p13 0;s3 0 0;s3 0 0;s3 0 0;s3 0 0;s3 0 0;s3 0 0;f0 2;f1 2;");
+        int[] shares = {2, 11, 11, 33, 33, 33};
+        due("20: six: how many", six.allot(63, -1), 13);
+        for (int s = 0; s < 6; s++) due("20: six: of " + s, six.allot(63, s), shares[s]);
+        due("20: three of six: how many", six.allot(42, -1), 4);
+        due("20: three of six: the first", six.allot(42, 1), 2);
+        due("20: three of six: the second", six.allot(42, 3), 11);
+        due("20: three of six: the third", six.allot(42, 5), 11);
+        due("20: nothing is gone", six.now(3), 2);
     }
 
     private static void promise21() {
@@ -609,7 +636,10 @@ public final class PromiseTests {
         due("24: all again", x.who(), 7);
         due("22: SEEN isn't undone", x.undo(), STATE);
         x.saw(1, 10);
-        due("24: by PLAIN, who needn't know it", x.who(), 1);
+        due("24: at his feet", x.who(), 1);
+        x.forget();
+        x.saw(1, 11);
+        due("24: the second is never 1 off", x.who(), 0);
         x.forget();
         due("22: first again", x.saw(1, 22), 1);
         due("24: 9 by three SWANS is 19, by three CROWS 3", x.who(), 0);
@@ -660,6 +690,10 @@ public final class PromiseTests {
         x.damps(4);
         // s1 in DAMP 4: GOOSE 0, 1, 4; SWAN 1, 7, 13; CROW 3, 7, 11; HAIR 0, 1: none beyond the row
         due("25: in DAMP alike", x.ask(), 0);
+        x = of("p15 0;p13 0;s9 0 0;s1 0 0;w4 2;");
+        due("25: in no WIND the second", x.ask(), 1);
+        x.hours(1);
+        due("25: in a WIND of -2: 13 goes down to -6 and up to 28, 15 to -4 and 30", x.ask(), 0);
     }
 
     private static void promise26() {
@@ -734,7 +768,15 @@ public final class PromiseTests {
         due("28: three to be undone", x.count(4), 3);
         for (int i = 0; i < 12; i++) x.hours(1);
         due("28: back(1), ten steps later", x.back(1), 4);
-        for (int i = 2; i >= 0; i--) due("28: undo()", x.undo(), i);
+        due("28: undo()", x.undo(), 2);
+        due("28: the HOUR undone", x.now(0), 3);
+        due("28: one lies", x.now(6), 1);
+        due("28: undo()", x.undo(), 1);
+        due("28: none lies", x.now(6), 0);
+        due("28: HOUR 3 still", x.now(0), 3);
+        due("28: undo()", x.undo(), 0);
+        due("28: HOUR 0 again", x.now(0), 0);
+        due("28: 9 GEESE again", x.now(2), 9);
     }
 
     private static void promise29() {
