@@ -4,7 +4,9 @@ import java.lang.reflect.Method;
 import java.lang.reflect.Modifier;
 import java.nio.file.Files;
 import java.nio.file.Path;
+import java.util.ArrayList;
 import java.util.Arrays;
+import java.util.List;
 import java.util.Set;
 import java.util.TreeSet;
 import java.util.regex.Matcher;
@@ -87,9 +89,31 @@ public final class FaceTest {
         due("some twelve classes", c.getDeclaredClasses().length < 12, true);
     }
 
+    /** What rule 11 bounds: parameters, fields beside constants, lines of a method. */
+    private static void sizes(String code) {
+        List<Class<?>> classes = new ArrayList<>(Arrays.asList(WordFletchers.class.getDeclaredClasses()));
+        classes.add(WordFletchers.class);
+        for (Class<?> c : classes) {
+            for (Method m : c.getDeclaredMethods()) {
+                due(c.getName() + "." + m.getName() + " takes seven at most", m.getParameterCount() <= 7, true);
+            }
+            long fields = Arrays.stream(c.getDeclaredFields()).filter(f -> !Modifier.isStatic(f.getModifiers())).count();
+            due(c.getName() + " has some twenty fields", fields <= 20, true);
+        }
+        Matcher body = Pattern.compile("(?m)^( {4}| {8})(?![^\n]*\\bclass\\b)\\w[^\n;]*\\) \\{\n(?:.*\n)*?\\1\\}").matcher(code);
+        int methods = 0;
+        while (body.find()) {
+            methods++;
+            long lines = body.group().lines().count();
+            due(body.group().lines().findFirst().orElse("") + " is short", lines <= 60, true);
+        }
+        due("methods are found", methods > 60, true);
+    }
+
     private static void source() throws Exception {
         String code = Files.readString(Path.of("src/main/java/WordFletchers.java"));
         due("signs are 1 to 127", code.chars().allMatch(sign -> sign > 0 && sign < 128), true);
+        sizes(code);
         String bare = code.replaceAll("(?s)/\\*.*?\\*/", " ").replaceAll("//[^\n]*", " ");
         for (String banned : BANNED) {
             String pattern = Character.isLetter(banned.charAt(0)) ? "\\b" + Pattern.quote(banned) + "\\b" : Pattern.quote(banned);
